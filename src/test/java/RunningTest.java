@@ -17,6 +17,7 @@ public final class RunningTest {
         toldAndThrows();
         restless();
         hazardsOfGates();
+        hazardsOfTheEdgeWires();
         hazardsOfWhatIsNotKnown();
         registerRises();
         registerResets();
@@ -430,6 +431,21 @@ public final class RunningTest {
         x.set(0, 1);
         x.settle();
         due.is("an input is no gate", x.ofHazard(x.hazards() - 1, 1) == 0, false);
+    }
+
+    private static void hazardsOfTheEdgeWires() {
+        FoundryNine x = new FoundryNine();
+        x.input(1);
+        x.gate(0, 2, 1, 0, 0, 1);
+        x.gate(2, 0, 1, 2, 0, 0);
+        x.gate(2, 23, 1, 2, 0, 0);
+        x.start();
+        x.settle();
+        x.set(1, 1);
+        x.settle();
+        due.is("hazards() of wires 0 and 23", x.hazards(), 2);
+        due.is("of wire 0", x.ofHazard(0, 1), 0);
+        due.is("of wire 23", x.ofHazard(1, 1), 23);
     }
 
     private static void hazardsOfWhatIsNotKnown() {

@@ -8,6 +8,7 @@ public final class WaysTest {
         flawsInOrder();
         ofFlawThrows();
         rings();
+        ringsOfEachOrder();
         ringsThroughLaterLines();
         arrivals();
         theFirstLineCounts();
@@ -77,6 +78,30 @@ public final class WaysTest {
         due.is("arrival behind a register", x.arrival(6), 5);
         due.is("arrival of a register behind a ring", x.arrival(7), 7);
         due.is("a ring may run", x.start(), 1);
+    }
+
+    /** A ring of the wires 0, 5 and 23, line by line in each order, and gates that have but one pin behind it. */
+    private static void ringsOfEachOrder() {
+        int[][] orders = {{0, 5, 23}, {0, 23, 5}, {5, 0, 23}, {5, 23, 0}, {23, 0, 5}, {23, 5, 0}};
+        for (int[] order : orders) {
+            FoundryNine x = new FoundryNine();
+            for (int wire : order) {
+                x.gate(1, wire, wire == 0 ? 5 : wire == 5 ? 23 : 0, 0, 0, 1);
+            }
+            x.input(1);
+            x.gate(7, 10, 0, 1, 1, 1);
+            x.gate(7, 11, 1, 5, 1, 1);
+            x.gate(7, 12, 1, 1, 23, 1);
+            x.gate(7, 13, 1, 12, 1, 1);
+            due.is("flaws() of a ring of three", x.flaws(), 3);
+            for (int i = 0; i < 3; i++) {
+                flaw(x, i, 3, i);
+                due.is("arrival in a ring of three", x.arrival(order[i]), -1);
+                due.is("arrival with a pin in a ring", x.arrival(10 + i), -1);
+            }
+            due.is("arrival behind one behind a ring", x.arrival(13), -1);
+            due.is("longest() of it", x.longest(), 0);
+        }
     }
 
     private static void ringsThroughLaterLines() {
@@ -171,8 +196,8 @@ public final class WaysTest {
     }
 
     private static void wayOfEquals() {
-        int[][] pins = {{3, 2, 1}, {1, 3, 2}, {0, 3, 2}, {0, 3, 1}, {0, 4, 2}};
-        int[] next = {3, 1, 3, 3, 4};
+        int[][] pins = {{3, 2, 1}, {1, 3, 2}, {0, 3, 2}, {0, 3, 1}, {0, 4, 2}, {0, 2, 4}, {1, 2, 4}, {0, 0, 3}};
+        int[] next = {3, 1, 3, 3, 4, 4, 4, 3};
         for (int i = 0; i < pins.length; i++) {
             FoundryNine x = new FoundryNine();
             x.input(0);

@@ -7,6 +7,8 @@ public final class WouldBeTest {
 
     public static void main(String[] args) {
         wouldBe();
+        wouldBeInOrder();
+        trialsOfNow();
         hazardsWith();
         settlesIn();
         longestWith();
@@ -45,6 +47,60 @@ public final class WouldBeTest {
         due.is("throwing changes nothing", digestOf(x), before);
         x.input(4);
         due.isThrown(STATE, "wouldBe(24, 2, 24)", () -> x.wouldBe(24, 2, 24));
+    }
+
+    /** What is pending at one time comes in the order in which it was made so, also in a trial behind another. */
+    private static void wouldBeInOrder() {
+        FoundryNine x = new FoundryNine();
+        x.input(0);
+        x.input(1);
+        x.input(9);
+        x.gate(1, 2, 0, 0, 0, 5);
+        x.gate(1, 3, 1, 0, 0, 5);
+        x.register(4, 2, 3, -1, 0);
+        x.start();
+        x.settle();
+        x.pass(1);
+        x.set(0, 1);
+        x.set(1, 1);
+        due.is("data ahead of the clock", x.wouldBe(9, 1, 4), 1);
+        x.start();
+        x.settle();
+        x.pass(1);
+        x.set(1, 1);
+        x.set(0, 1);
+        due.is("the clock ahead of data", x.wouldBe(9, 1, 4), 0);
+        due.is("the clock ahead of an input's data", x.wouldBe(0, 0, 4), 0);
+        x.settle();
+        due.is("so it is", x.ofWire(4, 0), 0);
+    }
+
+    /** A trial is one of what is now: of what changed, rose and is pending, and of how often it was restless. */
+    private static void trialsOfNow() {
+        FoundryNine x = circuit();
+        x.settle();
+        x.pass(50);
+        due.is("settlesIn() of nothing", x.settlesIn(), 0);
+        x.wouldBe(0, 1, 1);
+        due.is("settlesIn() of nothing, behind wouldBe()", x.settlesIn(), 0);
+        x.set(0, 1);
+        x.settle();
+        x.set(0, 0);
+        x.pass(2);
+        due.is("data changed now: hazard 3", x.hazardsWith(0, 1), 3);
+        x.pass(5);
+        due.is("data changed long ago: none", x.hazardsWith(0, 1), 2);
+        x.gate(5, 5, 0, 5, 0, 1);
+        x.start();
+        x.settle();
+        x.pass(50);
+        x.set(0, 1);
+        due.is("settlesIn() of one that would be restless", x.settlesIn(), -1);
+        x.settle();
+        due.is("told(4)", x.told(4), 1);
+        due.is("settlesIn() of one that was restless", x.settlesIn(), 0);
+        x.set(0, 0);
+        due.is("settlesIn() of one that rests again", x.settlesIn(), 2);
     }
 
     private static void hazardsWith() {
