@@ -12,6 +12,7 @@ public final class FoundryNine {
 
     private static final int NONE = -1;
     private static final int NOT_KNOWN = 2;
+    private static final int ANY_TIME = 0x7fffffff;
 
     private static final int NOT = 0;
     private static final int SAME = 1;
@@ -293,7 +294,7 @@ public final class FoundryNine {
     public int settlesIn() throws IllegalStateException {
         checkRunning();
         trial.copyFrom(run);
-        trial.letCome(Integer.MAX_VALUE);
+        trial.letCome(ANY_TIME);
         return trial.restless == run.restless ? trial.now - run.now : NONE;
     }
 
@@ -741,7 +742,7 @@ public final class FoundryNine {
 
         /** Lets all come that is pending, notes what hazards that shows, and tells how many changes there were. */
         int comeToRest() {
-            int changed = letCome(Integer.MAX_VALUE);
+            int changed = letCome(ANY_TIME);
             noteHazardsOfGates();
             beginCounting();
             return changed;
@@ -784,7 +785,7 @@ public final class FoundryNine {
         }
 
         int nextTime() {
-            int next = nextLine(Integer.MAX_VALUE);
+            int next = nextLine(ANY_TIME);
             return next == NONE ? NONE : pendingTime[next];
         }
 
