@@ -1,11 +1,33 @@
 /** Counts the answers that are not the ones that are due, and ends with exit code 1 if there were any. */
 final class Due {
+    static final Class<IllegalArgumentException> ARGUMENT = IllegalArgumentException.class;
+    static final Class<IndexOutOfBoundsException> INDEX = IndexOutOfBoundsException.class;
+    static final Class<IllegalStateException> STATE = IllegalStateException.class;
+
     interface Call {
         long answer();
     }
 
+    interface Calls {
+        void on(FoundryNine x);
+    }
+
+    interface CallOn {
+        long answer(FoundryNine x);
+    }
+
     private int wrong = 0;
     private int asked = 0;
+    private String test = "";
+
+    /** From now on what is told bears the name of that test. */
+    void begin(String name) {
+        test = name + ": ";
+    }
+
+    int asked() {
+        return asked;
+    }
 
     void is(String call, long got, long want) {
         asked++;
@@ -37,6 +59,26 @@ final class Due {
         }
     }
 
+    /** The call behind those is refused so, and a twin that was not asked for it is, and goes on, as this one. */
+    void isRefused(Class<? extends RuntimeException> want, String text, Calls before, CallOn call) {
+        FoundryNine x = new FoundryNine();
+        FoundryNine twin = new FoundryNine();
+        before.on(x);
+        before.on(twin);
+        isThrown(want, text, () -> call.answer(x));
+        isTrue(text + " was refused, but changed something", Look.at(x).equals(Look.at(twin)));
+    }
+
+    /** The call behind those changes nothing: a twin that was not asked for it is, and goes on, as this one. */
+    void changesNothing(String text, Calls before, CallOn call) {
+        FoundryNine x = new FoundryNine();
+        FoundryNine twin = new FoundryNine();
+        before.on(x);
+        before.on(twin);
+        call.answer(x);
+        isTrue(text + " changed something", Look.at(x).equals(Look.at(twin)));
+    }
+
     void isTrue(String text, boolean holds) {
         asked++;
         if (!holds) {
@@ -47,7 +89,7 @@ final class Due {
     private void tell(String text) {
         wrong++;
         if (wrong <= 50) {
-            System.out.println(text);
+            System.out.println(test + text);
         }
     }
 

@@ -11,18 +11,48 @@ import java.util.Set;
 import java.util.TreeSet;
 import java.util.regex.Matcher;
 import java.util.regex.Pattern;
+import java.util.stream.Collectors;
 
 /** The face of the class as the document tells it, and those rules of LANGUAGE.md that can be looked for simply. */
 public final class FaceTest {
     private static final Due due = new Due();
-    private static final String[] FACE = {
-        "int input(int)", "int gate(int,int,int,int,int,int)", "int register(int,int,int,int,int)",
-        "int setWindow(int,int,int)", "int setDelay(int,int)", "int lines()", "int flaws()", "int ofFlaw(int,int)",
-        "int arrival(int)", "int longest()", "int way(int)", "int users(int)", "int start()", "int set(int,int)",
-        "int pass(int)", "int settle()", "boolean isRunning()", "int told(int)", "int ofWire(int,int)",
-        "int pending(int)", "int hazards()", "int ofHazard(int,int)", "int wouldBe(int,int,int)",
-        "int hazardsWith(int,int)", "int settlesIn()", "int longestWith(int,int)", "double meanArrival()",
-        "long digest()",
+    /** The document's own lines. */
+    static final String[] FACE = {
+        "public FoundryNine();",
+        "public int input(int wire) throws IndexOutOfBoundsException, IllegalStateException;",
+        "public int gate(int kind, int wire, int a, int b, int c, int delay)"
+            + " throws IllegalArgumentException, IndexOutOfBoundsException, IllegalStateException;",
+        "public int register(int wire, int data, int clock, int reset, int delay)"
+            + " throws IndexOutOfBoundsException, IllegalArgumentException, IllegalStateException;",
+        "public int setWindow(int line, int setup, int hold)"
+            + " throws IndexOutOfBoundsException, IllegalArgumentException;",
+        "public int setDelay(int line, int delay) throws IndexOutOfBoundsException, IllegalArgumentException;",
+        "public int lines();",
+        "public int flaws();",
+        "public int ofFlaw(int flaw, int what) throws IndexOutOfBoundsException, IllegalArgumentException;",
+        "public int arrival(int wire) throws IndexOutOfBoundsException;",
+        "public int longest();",
+        "public int way(int place);",
+        "public int users(int wire) throws IndexOutOfBoundsException;",
+        "public int start() throws IllegalStateException;",
+        "public int set(int wire, int value)"
+            + " throws IllegalStateException, IndexOutOfBoundsException, IllegalArgumentException;",
+        "public int pass(int by) throws IllegalStateException, IllegalArgumentException;",
+        "public int settle() throws IllegalStateException;",
+        "public boolean isRunning();",
+        "public int told(int what) throws IllegalArgumentException;",
+        "public int ofWire(int wire, int what) throws IndexOutOfBoundsException, IllegalArgumentException;",
+        "public int pending(int line) throws IndexOutOfBoundsException;",
+        "public int hazards();",
+        "public int ofHazard(int hazard, int what) throws IndexOutOfBoundsException, IllegalArgumentException;",
+        "public int wouldBe(int wire, int value, int other)"
+            + " throws IllegalStateException, IndexOutOfBoundsException, IllegalArgumentException;",
+        "public int hazardsWith(int wire, int value)"
+            + " throws IllegalStateException, IndexOutOfBoundsException, IllegalArgumentException;",
+        "public int settlesIn() throws IllegalStateException;",
+        "public int longestWith(int line, int delay) throws IndexOutOfBoundsException, IllegalArgumentException;",
+        "public double meanArrival();",
+        "public long digest();",
     };
     private static final String[] FORBIDDEN = {
         "->", "::", "\\btry\\b", "\\bcatch\\b", "\\bfinally\\b", "\\bsynchronized\\b", "\\bassert\\b", "\\bpackage\\b",
@@ -37,12 +67,18 @@ public final class FaceTest {
         due.end();
     }
 
-    private static String signature(Method method) {
-        StringBuilder text = new StringBuilder();
-        for (Class<?> type : method.getParameterTypes()) {
-            text.append(text.length() == 0 ? "" : ",").append(type.getName());
-        }
-        return method.getReturnType().getName() + " " + method.getName() + "(" + text + ")";
+    /** A line of the document without the names of its parameters. */
+    private static String told(String line) {
+        return line.replaceAll("int \\w+([,)])", "int$1");
+    }
+
+    private static String found(String head, Executable method) {
+        return head + "(" + names(method.getParameterTypes()) + ")"
+                + (method.getExceptionTypes().length == 0 ? "" : " throws " + names(method.getExceptionTypes())) + ";";
+    }
+
+    private static String names(Class<?>[] types) {
+        return Arrays.stream(types).map(Class::getSimpleName).collect(Collectors.joining(", "));
     }
 
     private static void face() {
@@ -52,20 +88,21 @@ public final class FaceTest {
         Set<String> names = new TreeSet<>();
         for (Method method : c.getDeclaredMethods()) {
             if (!Modifier.isPrivate(method.getModifiers())) {
-                found.add(signature(method));
+                found.add(found("public " + method.getReturnType().getName() + " " + method.getName(), method));
                 names.add(method.getName());
                 due.isTrue("not public: " + method, Modifier.isPublic(method.getModifiers()));
             }
         }
-        due.isTrue("the face is " + found, found.equals(new TreeSet<>(Arrays.asList(FACE))));
+        for (Constructor<?> constructor : c.getDeclaredConstructors()) {
+            found.add(found("public FoundryNine", constructor));
+            due.isTrue("not public: " + constructor, Modifier.isPublic(constructor.getModifiers()));
+        }
+        Set<String> told = Arrays.stream(FACE).map(FaceTest::told).collect(Collectors.toCollection(TreeSet::new));
+        due.isTrue("the face is " + found, found.equals(told));
         for (Method method : c.getDeclaredMethods()) {
             if (Modifier.isPrivate(method.getModifiers())) {
                 due.isTrue("a private name of the face: " + method, !names.contains(method.getName()));
             }
-        }
-        for (Constructor<?> constructor : c.getDeclaredConstructors()) {
-            due.isTrue("constructor", Modifier.isPublic(constructor.getModifiers())
-                    && constructor.getParameterCount() == 0);
         }
         for (Field field : c.getDeclaredFields()) {
             due.isTrue("field " + field, Modifier.isPrivate(field.getModifiers()));
