@@ -74,6 +74,50 @@ final class Promise24WouldBe {
         due.is("0, behind HOLD", x.wouldBe(0, 1, 3), 0);
     }
 
+    @Says("if the INPUT was set so now,")
+    static void changesAndRisesAheadCount(Due due) {
+        for (int gap = 0; gap <= 6; gap++) {
+            FoundryNine x = Circuits.register(5, 5, 0);
+            x.set(0, 1);
+            x.pass(gap);
+            due.is("CLOCK, " + gap + " behind DATA", x.wouldBe(1, 1, 3), gap < 5 ? 2 : 1);
+            FoundryNine y = Circuits.register(5, 5, 0);
+            y.set(1, 1);
+            y.pass(gap);
+            due.is("DATA, " + gap + " behind a RISE", y.wouldBe(0, 1, 3), gap < 5 ? 2 : 0);
+        }
+    }
+
+    /** DATA 2 and CLOCK 3 of a REGISTER come of the INPUTS 0 and 1, 5 later each. */
+    private static FoundryNine race() {
+        FoundryNine x = new FoundryNine();
+        x.input(0);
+        x.input(1);
+        x.input(9);
+        x.gate(1, 2, 0, 0, 0, 5);
+        x.gate(1, 3, 1, 0, 0, 5);
+        x.register(4, 2, 3, -1, 0);
+        x.start();
+        x.settle();
+        x.pass(1);
+        return x;
+    }
+
+    @Says("if the INPUT was set so now,")
+    static void whatIsPendingComesInItsOrder(Due due) {
+        for (int first = 0; first < 2; first++) {
+            FoundryNine one = race();
+            one.set(first, 1);
+            due.is("the one of this INPUT is behind it", one.wouldBe(1 - first, 1, 4), 1 - first);
+            FoundryNine two = race();
+            two.set(first, 1);
+            two.set(1 - first, 1);
+            due.is("both are ahead", two.wouldBe(9, 1, 4), 1 - first);
+            two.settle();
+            due.is("so it is", two.ofWire(4, 0), 1 - first);
+        }
+    }
+
     @Says("Throws `IllegalStateException` if it does not run")
     static void itDoesNotRun(Due due) {
         due.isRefused(Due.STATE, "ahead of START", Circuits::told, x -> x.wouldBe(0, 1, 0));

@@ -43,6 +43,20 @@ final class Promise25HazardsWith {
         due.is("once more", y.hazardsWith(0, 0), 0);
     }
 
+    @Says("if the INPUT was set so now,")
+    static void changesAndRisesAheadCount(Due due) {
+        for (int gap = 0; gap <= 6; gap++) {
+            FoundryNine x = Circuits.register(5, 5, 0);
+            x.set(0, 1);
+            x.pass(gap);
+            due.is("CLOCK, " + gap + " behind DATA", x.hazardsWith(1, 1), gap < 5 ? 1 : 0);
+            FoundryNine y = Circuits.register(5, 5, 0);
+            y.set(1, 1);
+            y.pass(gap);
+            due.is("DATA, " + gap + " behind a RISE", y.hazardsWith(0, 1), gap < 5 ? 1 : 0);
+        }
+    }
+
     @Says("Returns how many HAZARDS more hazards() would tell,")
     static void itTellsNoneBeyond40(Due due) {
         for (int noted = 35; noted <= 42; noted++) {

@@ -55,6 +55,27 @@ final class Term2Arrivals {
         }
     }
 
+    /** Whichever of its WIRES has a smaller number, and whichever a greater one. */
+    @Says("of one that a GATE drives its DELAY more than the greatest ARRIVAL of those by which it does so;")
+    static void theGreatestOfWiresAheadAndBehind(Due due) {
+        int[] wires = {1, 2, 22, 23};
+        for (int turn = 0; turn < 2; turn++) {
+            for (int i = 0; i < 64; i++) {
+                int[] pins = {i / 16, i / 4 % 4, i % 4};
+                FoundryNine x = new FoundryNine();
+                int greatest = 0;
+                for (int pin : pins) {
+                    greatest = Math.max(greatest, turn == 0 ? 3 * pin : 9 - 3 * pin);
+                }
+                x.gate(7, 10, wires[pins[0]], wires[pins[1]], wires[pins[2]], 5);
+                for (int k = 0; k < 4; k++) {
+                    x.gate(1, wires[k], 0, 0, 0, turn == 0 ? 3 * k : 9 - 3 * k);
+                }
+                due.is("arrival", x.arrival(10), 5 + greatest);
+            }
+        }
+    }
+
     @Says("of one that a GATE drives its DELAY more than the greatest ARRIVAL of those by which it does so;")
     static void theGreatestArrivalThatThereMayBe(Due due) {
         for (int order = 0; order < 2; order++) {

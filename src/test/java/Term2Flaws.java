@@ -154,6 +154,22 @@ final class Term2Flaws {
         }
     }
 
+    /** The WIRES 0, 5 and 23, told in each order, each way round. */
+    @Says("one can come from the WIRE that it drives, through GATES alone, to one by which it is driven itself")
+    static void aRingToldInEachOrder(Due due) {
+        int[][] orders = {{0, 5, 23}, {0, 23, 5}, {5, 0, 23}, {5, 23, 0}, {23, 0, 5}, {23, 5, 0}};
+        for (int[] order : orders) {
+            for (int[] round : orders) {
+                FoundryNine x = new FoundryNine();
+                for (int wire : order) {
+                    int at = wire == round[0] ? 0 : wire == round[1] ? 1 : 2;
+                    x.gate(1, wire, round[(at + 1) % 3], 0, 0, 0);
+                }
+                areFlaws(due, "three", x, flaw(3, 0), flaw(3, 1), flaw(3, 2));
+            }
+        }
+    }
+
     @Says("through GATES alone,")
     static void throughARegisterItIsNoRing(Due due) {
         for (int pin = 0; pin < 3; pin++) {

@@ -84,6 +84,29 @@ final class Term3Registers {
         due.is("CLOCK from 0 over 2 to 1", over2.pending(3), -1);
     }
 
+    /** CLOCK is 1, then 0 for a moment, then 1, in one call. */
+    @Says("CLOCK, if it was 0 and is 1 now,")
+    static void clockThatWas0JustAhead(Due due) {
+        FoundryNine x = new FoundryNine();
+        x.input(0);
+        x.input(1);
+        int clock = Circuits.turning(x, 0, 2, 2, 5, 8);
+        x.register(20, 1, clock, -1, 0);
+        x.start();
+        x.settle();
+        x.set(0, 1);
+        x.settle();
+        due.is("CLOCK", x.ofWire(clock, 0), 1);
+        due.is("the REGISTER", x.ofWire(20, 0), 0);
+        x.set(1, 1);
+        x.set(0, 0);
+        x.pass(4);
+        due.is("ahead of the RISE", x.ofWire(20, 0), 0);
+        x.pass(4);
+        due.is("it rose between", x.ofWire(20, 0), 1);
+        due.is("CLOCK, behind it", x.ofWire(clock, 0), 0);
+    }
+
     @Says("and RESET, if it has one, is 0 (a RISE):")
     static void resetThatIs0(Due due) {
         for (int reset = 0; reset < 3; reset++) {
