@@ -57,6 +57,22 @@ final class Promise24WouldBe {
         }
     }
 
+    @Says("if the INPUT was set so now, and it SETTLED.")
+    static void itIsRestlessHoweverSlow(Due due) {
+        for (int delay = 0; delay <= 20; delay++) {
+            FoundryNine x = new FoundryNine();
+            x.input(0);
+            Circuits.buzzers(x, 0, 1, delay, 1);
+            x.start();
+            x.settle();
+            due.is("behind 300 of DELAY " + delay, x.wouldBe(0, 1, 1), 1);
+            x.set(0, 1);
+            x.pass(delay);
+            due.is("RESTLESS as it passed, or not", x.told(4), delay == 0 ? 1 : 0);
+            due.is("behind 300 more of DELAY " + delay, x.wouldBe(0, 1, 1), delay == 0 ? 1 : 0);
+        }
+    }
+
     @Says("if the INPUT was set so now,")
     static void pastTheHazardsThatAreNoted(Due due) {
         FoundryNine x = Circuits.register(0, 20, 0);

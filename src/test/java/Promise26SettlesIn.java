@@ -95,6 +95,22 @@ final class Promise26SettlesIn {
         due.is("behind that, too", x.settlesIn(), 0);
     }
 
+    @Says("-1 if it would be RESTLESS.")
+    static void howeverFastItIs(Due due) {
+        for (int delay = 0; delay <= 20; delay++) {
+            FoundryNine x = new FoundryNine();
+            x.input(0);
+            Circuits.buzzers(x, 0, 1, delay, 1);
+            x.start();
+            due.is("DELAY " + delay + ", at rest", x.settlesIn(), delay);
+            x.settle();
+            x.set(0, 1);
+            due.is("DELAY " + delay, x.settlesIn(), -1);
+            x.pass(100);
+            due.is("DELAY " + delay + ", later", x.settlesIn(), delay == 0 ? 0 : -1);
+        }
+    }
+
     @Says("Throws `IllegalStateException` if it does not run")
     static void itDoesNotRun(Due due) {
         due.isRefused(Due.STATE, "new", Circuits::none, x -> x.settlesIn());

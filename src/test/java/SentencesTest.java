@@ -51,6 +51,9 @@ public final class SentencesTest {
                     run(c, method);
                     lookUp(document, c.getAnnotation(Section.class).value(), method.getAnnotation(Says.class).value());
                     tests++;
+                } else {
+                    due.begin(c.getName());
+                    due.isTrue(method.getName() + " is for no sentence", !isTest(method));
                 }
             }
         }
@@ -91,6 +94,10 @@ public final class SentencesTest {
             due.isTrue("threw " + e.getCause(), false);
         }
         due.isTrue("looks at nothing", due.asked() > asked);
+    }
+
+    private static boolean isTest(Method method) {
+        return !method.isSynthetic() && Arrays.equals(method.getParameterTypes(), new Class<?>[] {Due.class});
     }
 
     private static void lookUp(Document document, String heading, String[] sentences) {
