@@ -33,7 +33,7 @@ final class Circuits {
         x.start();
     }
 
-    /** It runs, at 21, with 4 PENDING on three LINES, one SWALLOWED, and three HAZARDS. */
+    /** It runs, at 24: two LINES have something PENDING, two were SWALLOWED, four HAZARDS are noted. */
     static void midway(FoundryNine x) {
         started(x);
         x.settle();
@@ -64,7 +64,7 @@ final class Circuits {
         x.register(9, 8, 7, -1, 2);
     }
 
-    /** A line without flaws of 1 or 2 more than 24 LINES: each WIRE is driven, so none can be added. */
+    /** 24 LINES, one for each WIRE: as many as may run. */
     static void eachWireDriven(FoundryNine x) {
         for (int wire = 0; wire < 24; wire++) {
             if (wire % 3 == 0) {
@@ -115,6 +115,28 @@ final class Circuits {
             wire += 2;
         }
         return wire;
+    }
+
+    /** A circuit that comes to rest by itself 20 later, behind 299 that come, and as many more. */
+    static FoundryNine busyForAWhile(int more) {
+        FoundryNine x = new FoundryNine();
+        x.input(0);
+        x.gate(1, 1, 0, 0, 0, 20);
+        buzzers(x, 1, 2, 1, 14);
+        buzzers(x, 1, 16, 2, 1);
+        buzzers(x, 1, 17, 4, 1);
+        buzzers(x, 1, 18, 5, 1);
+        x.input(19);
+        for (int i = 0; i < more; i++) {
+            x.gate(1, 20 + i, 19, 0, 0, 20);
+        }
+        x.start();
+        x.settle();
+        x.set(0, 1);
+        x.pass(20);
+        x.set(0, 0);
+        x.set(19, 1);
+        return x;
     }
 
     /** How many HAZARDS of a WIRE are noted. */

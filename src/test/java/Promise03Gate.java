@@ -117,7 +117,8 @@ final class Promise03Gate {
     static void kindIsNot0To7(Due due) {
         for (int kind : Edges.NO_KINDS) {
             due.isRefused(Due.ARGUMENT, "kind " + kind, Circuits::midway, x -> x.gate(kind, 8, 0, 1, 2, 0));
-            due.isRefused(Due.ARGUMENT, "kind " + kind + ", no WIRE", Circuits::none, x -> x.gate(kind, 24, 24, 24, 24, 0));
+            due.isRefused(Due.ARGUMENT, "kind " + kind + ", no WIRE", Circuits::none,
+                    x -> x.gate(kind, 24, 24, 24, 24, 0));
             due.isRefused(Due.ARGUMENT, "kind " + kind + ", 30", Circuits::thirty, x -> x.gate(kind, 0, 0, 0, 0, 0));
         }
     }
@@ -126,7 +127,8 @@ final class Promise03Gate {
     static void delayIsNot0To20(Due due) {
         for (int delay : Edges.NO_DELAYS) {
             due.isRefused(Due.ARGUMENT, "delay " + delay, Circuits::midway, x -> x.gate(7, 8, 0, 1, 2, delay));
-            due.isRefused(Due.ARGUMENT, "delay " + delay + ", no WIRE", Circuits::none, x -> x.gate(0, 0, 24, 0, 0, delay));
+            due.isRefused(Due.ARGUMENT, "delay " + delay + ", no WIRE", Circuits::none,
+                    x -> x.gate(0, 0, 24, 0, 0, delay));
             due.isRefused(Due.ARGUMENT, "delay " + delay + ", 30", Circuits::thirty, x -> x.gate(0, 0, 0, 0, 0, delay));
         }
     }

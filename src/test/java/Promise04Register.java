@@ -73,7 +73,8 @@ final class Promise04Register {
             due.isRefused(Due.INDEX, wire + ", delay 21", Circuits::midway, x -> x.register(8, wire, 1, -1, 21));
             if (wire != -1) {
                 due.isRefused(Due.INDEX, wire + " as RESET", Circuits::midway, x -> x.register(8, 0, 1, wire, 3));
-                due.isRefused(Due.INDEX, wire + " as RESET, delay 21", Circuits::midway, x -> x.register(8, 0, 1, wire, 21));
+                due.isRefused(Due.INDEX, wire + " as RESET, delay 21", Circuits::midway,
+                        x -> x.register(8, 0, 1, wire, 21));
             }
         }
         for (int wire : new int[] {0, 23}) {
@@ -86,7 +87,8 @@ final class Promise04Register {
     static void delayIsNot0To20(Due due) {
         for (int delay : Edges.NO_DELAYS) {
             due.isRefused(Due.ARGUMENT, "delay " + delay, Circuits::midway, x -> x.register(8, 0, 1, 2, delay));
-            due.isRefused(Due.ARGUMENT, "delay " + delay + ", 30", Circuits::thirty, x -> x.register(8, 0, 1, -1, delay));
+            due.isRefused(Due.ARGUMENT, "delay " + delay + ", 30", Circuits::thirty,
+                    x -> x.register(8, 0, 1, -1, delay));
         }
     }
 

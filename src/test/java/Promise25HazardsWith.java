@@ -116,7 +116,8 @@ final class Promise25HazardsWith {
     @Says("or value is not 0 or 1")
     static void valueIsNot0Or1(Due due) {
         for (int value : Edges.NO_INPUTS_VALUES) {
-            due.isRefused(Due.ARGUMENT, "hazardsWith(0, " + value + ")", Circuits::midway, x -> x.hazardsWith(0, value));
+            due.isRefused(Due.ARGUMENT, "hazardsWith(0, " + value + ")", Circuits::midway,
+                    x -> x.hazardsWith(0, value));
         }
     }
 }

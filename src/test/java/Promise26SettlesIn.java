@@ -54,33 +54,11 @@ final class Promise26SettlesIn {
         due.is("SWALLOWED", x.settlesIn(), 0);
     }
 
-    /** A circuit that comes to rest 20 later, behind 299 that come, and as many more. */
-    private static FoundryNine busyForAWhile(int more) {
-        FoundryNine x = new FoundryNine();
-        x.input(0);
-        x.gate(1, 1, 0, 0, 0, 20);
-        Circuits.buzzers(x, 1, 2, 1, 14);
-        Circuits.buzzers(x, 1, 16, 2, 1);
-        Circuits.buzzers(x, 1, 17, 4, 1);
-        Circuits.buzzers(x, 1, 18, 5, 1);
-        x.input(19);
-        for (int i = 0; i < more; i++) {
-            x.gate(1, 20 + i, 19, 0, 0, 20);
-        }
-        x.start();
-        x.settle();
-        x.set(0, 1);
-        x.pass(20);
-        x.set(0, 0);
-        x.set(19, 1);
-        return x;
-    }
-
     @Says("-1 if it would be RESTLESS.")
     static void minus1IfItWouldBeRestless(Due due) {
-        due.is("300 come", busyForAWhile(1).settlesIn(), 20);
-        due.is("301 would", busyForAWhile(2).settlesIn(), -1);
-        FoundryNine x = busyForAWhile(2);
+        due.is("300 come", Circuits.busyForAWhile(1).settlesIn(), 20);
+        due.is("301 would", Circuits.busyForAWhile(2).settlesIn(), -1);
+        FoundryNine x = Circuits.busyForAWhile(2);
         x.settlesIn();
         due.is("it was not RESTLESS", x.told(4), 0);
         x.settle();

@@ -28,28 +28,6 @@ final class Term3Coming {
         return x;
     }
 
-    /** It comes to rest by itself 20 later, behind 299 that come, and as many more. */
-    private static FoundryNine busyForAWhile(int more) {
-        FoundryNine x = new FoundryNine();
-        x.input(0);
-        x.gate(1, 1, 0, 0, 0, 20);
-        Circuits.buzzers(x, 1, 2, 1, 14);
-        Circuits.buzzers(x, 1, 16, 2, 1);
-        Circuits.buzzers(x, 1, 17, 4, 1);
-        Circuits.buzzers(x, 1, 18, 5, 1);
-        x.input(19);
-        for (int i = 0; i < more; i++) {
-            x.gate(1, 20 + i, 19, 0, 0, 20);
-        }
-        x.start();
-        x.settle();
-        x.set(0, 1);
-        x.pass(20);
-        x.set(0, 0);
-        x.set(19, 1);
-        return x;
-    }
-
     @Says("What is PENDING comes one by one, the smallest TIME first,")
     static void theSmallestTimeFirst(Due due) {
         for (int told = 0; told < 2; told++) {
@@ -232,17 +210,17 @@ final class Term3Coming {
 
     @Says("If more than 300 would come in one call,")
     static void threeHundredMayComeAsItSettles(Due due) {
-        FoundryNine x = busyForAWhile(1);
+        FoundryNine x = Circuits.busyForAWhile(1);
         due.is("300 come", x.settle(), 300);
         due.is("RESTLESS", x.told(4), 0);
         due.is("nothing is PENDING", x.told(1), 0);
         due.is("the last came", x.ofWire(15, 0), 1);
-        due.is("299 come", busyForAWhile(0).settle(), 299);
+        due.is("299 come", Circuits.busyForAWhile(0).settle(), 299);
     }
 
     @Says("the 301st does not come any more:")
     static void the301stDoesNotComeAsItSettles(Due due) {
-        FoundryNine x = busyForAWhile(2);
+        FoundryNine x = Circuits.busyForAWhile(2);
         due.is("300 come of 301", x.settle(), 300);
         due.is("RESTLESS", x.told(4), 1);
         due.is("nothing is PENDING", x.told(1), 0);
